@@ -230,8 +230,16 @@ public final class DownByTheHour {
             return error(BEYOND);
         }
         thought.foresee(house, house.hour, n);
-        int held = fewestHeld(n, most);
-        return what == 0 ? Integer.bitCount(held) : held;
+        int count = house.things.count;
+        int all = (1 << count) - 1;
+        for (int fewest = 0; fewest < count; fewest++) {
+            for (int held = 0; held < all; held++) {
+                if (Integer.bitCount(held) == fewest && thought.staysWithin(house, n, most, held)) {
+                    return what == 0 ? fewest : held;
+                }
+            }
+        }
+        return what == 0 ? count : all;
     }
 
     // ---- ways by walls alone
@@ -504,19 +512,6 @@ public final class DownByTheHour {
 
     private static boolean isUse(int use) {
         return use == House.PULLS || use == House.BREAKS;
-    }
-
-    /** The set with the fewest THINGS, of several the least; what is all held never falls. */
-    private int fewestHeld(int n, int most) {
-        int all = (1 << house.things.count) - 1;
-        for (int fewest = 0; fewest < house.things.count; fewest++) {
-            for (int held = 0; held < all; held++) {
-                if (Integer.bitCount(held) == fewest && thought.staysWithin(house, n, most, held)) {
-                    return held;
-                }
-            }
-        }
-        return all;
     }
 
     /** Whether one who starts at an HOUR of the foreseen DAY is in the SHEET's CELLS, one behind the other. */
@@ -1295,12 +1290,12 @@ public final class DownByTheHour {
         }
 
         private int sound(int from, int voice, int x, int depth) {
+            if (depth > DEEPEST) {
+                return 0;
+            }
             int at = from;
             for (int i = 0; i < Kinds.KINDS && bodyOf(at, voice) == 0; i++) {
                 at = Kinds.above(at);
-            }
-            if (depth > DEEPEST) {
-                return 0;
             }
             begin(bodyOf(at, voice));
             return run(bodyOf(at, voice), at, x, depth + 1);
