@@ -24,7 +24,7 @@ public final class ImageTest {
         Due.text(x, 0, "h+2");
         Due.text(x, 1, "f=1");
         Due.feed(x, "1+");
-        x.tell(31);
+        x.tell(30);
         d.due("35: first", x.image(), 1);
         x.become(0, 12);
         x.thing(0, 0);
@@ -33,8 +33,11 @@ public final class ImageTest {
         x.wall(7, 0);
         x.wall(8, 1);
         x.untell(0);
+        Due.feed(x, "2222");
+        x.text(1);
         Due.text(x, 1, "0");
         Due.feed(x, "2222");
+        x.check();
         x.tell(9);
         x.tell(9);
         d.due("36: HOUR", x.restore(), 2);
@@ -56,7 +59,7 @@ public final class ImageTest {
         d.due("36: its bytes", x.text(0), 1);
         d.due("36: its bytes", x.law(0, 0, 0, 0), 2);
         d.due("36: numbers wait", x.count(6), 1);
-        d.due("36: which", x.check(), 1);
+        d.due("36: which", x.check(), 0);
         d.due("36: the image stays", x.restore(), 2);
         d.due("36: the tape", x.count(5), 2);
         d.due("36: BROKEN", x.count(2), 1);
@@ -98,6 +101,12 @@ public final class ImageTest {
         d.due("36: once more", x.thingIs(0, 2), 14);
         x.hours(1);
         d.due("36: goes on from there", x.thingIs(0, 2), 12);
+        x.restore();
+        x.carry(0, 0);
+        x.clock(0);
+        d.due("36: it breaks", x.hours(1), 1);
+        x.restore();
+        d.due("36: it isn't broken", x.count(2), 0);
     }
 
     private static void waiting() {

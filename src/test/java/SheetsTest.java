@@ -140,8 +140,8 @@ public final class SheetsTest {
     private static void walls() {
         DownByTheHour x = new DownByTheHour();
         x.wall(4, 1);
-        x.thing(0, 2);
         x.thing(0, 5);
+        x.thing(0, 2);
         Due.sheet(x, 0, 8, 1, 1, 0, 1, 0, 1, 1);
         d.due("33: up to the thing", x.walls(0), 5);
         int[] want = {1, 1, 0, 1, 0, 0, 0};

@@ -51,6 +51,10 @@ public final class TextsTest {
 
     private static void reading() {
         DownByTheHour x = new DownByTheHour();
+        Due.text(x, 0, "!h|d*n+1");
+        Due.text(x, 0, "!h");
+        Due.text(x, 0, "2");
+        d.due("11: nothing of a longer one stays", x.law(0, 1, 1, 1), 2);
         Due.feed(x, "h");
         d.due("11: use 2", x.text(2), Due.BEYOND);
         d.due("11: use -1", x.text(-1), Due.BEYOND);

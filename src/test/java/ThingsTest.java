@@ -173,6 +173,7 @@ public final class ThingsTest {
         d.due("8: carried", x.carry(0, 20), 3);
         d.due("8: its own cell", x.carry(0, 20), 20);
         d.due("8: another thing", x.carry(0, 4), Due.STATE);
+        d.due("8: thing 0 is there", x.carry(1, 20), Due.STATE);
         d.due("8: a wall", x.carry(0, 8), Due.STATE);
         d.due("8: the cell it left", x.carry(1, 3), 4);
         d.due("8: left", x.cellIs(4, 1), -1);
@@ -185,6 +186,15 @@ public final class ThingsTest {
         x.hours(1);
         d.due("8: falls from there", x.thingIs(0, 2), 32);
         d.due("8: and 1", x.thingIs(1, 2), 33);
+        x.carry(0, 0);
+        x.carry(1, 24);
+        x.hours(1);
+        d.due("8: stopped where the other came to", x.thingIs(0, 2), 18);
+        d.due("8: which falls", x.thingIs(1, 2), 30);
+        x.carry(0, 0);
+        x.carry(1, 35);
+        x.hours(1);
+        d.due("8: not stopped where they were", x.thingIs(0, 2), 30);
     }
 
     private static void clocks() {

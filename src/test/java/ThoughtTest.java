@@ -93,6 +93,12 @@ public final class ThoughtTest {
         d.due("20: the least thing", x.farthest(60, 1), 0);
         x.clock(5);
         d.due("20: hours from now on", x.farthest(60, 2), 2);
+        x.clock(6);
+        d.due("20: something falls", x.farthest(1, 0), 5);
+        x.clock(0);
+        for (int what = 0; what < 3; what++) {
+            d.due("20: then nothing does, " + what, x.farthest(1, what), what == 1 ? -1 : 0);
+        }
         x.carry(0, 10);
         x.clock(6);
         d.due("20: the greatest, not the first", x.farthest(1, 1), 1);
@@ -117,6 +123,7 @@ public final class ThoughtTest {
         d.due("21: within 2", x.screws(3, 2, 0), 2);
         d.due("21: within 0 none may move", x.screws(60, 0, 1), 7);
         stacked();
+        d.due("21: n 1", x.screws(1, 4, 1), 1);
         d.due("21: n 0", x.screws(0, 0, 0), Due.BEYOND);
         d.due("21: n 61", x.screws(61, 0, 0), Due.BEYOND);
         d.due("21: most -1", x.screws(1, -1, 0), Due.BEYOND);

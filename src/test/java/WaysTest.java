@@ -83,6 +83,7 @@ public final class WaysTest {
         x.thing(0, 13);
         d.due("24: as if there were no things", x.rooms(14, 1), set(14, 12));
         d.due("24: wall", x.rooms(20, 0), Due.STATE);
+        d.due("24: n 100", x.rooms(5, 100), set(5, 0, 30, 35));
         d.due("24: n -1", x.rooms(14, -1), Due.BEYOND);
         d.due("24: n 101", x.rooms(20, 101), Due.BEYOND);
         d.due("24: cell 36", x.rooms(36, 1), Due.BEYOND);
@@ -115,6 +116,11 @@ public final class WaysTest {
         Due.text(x, 0, "3*(h=100)");
         d.due("25: not by 100", x.soonest(0, 5), Due.NONE);
         d.due("26: not by 100", x.shut(5) & set(0), set(0));
+        Due.text(x, 0, "3*(h=0)");
+        d.due("25: by this hour alone", x.soonest(0, 5), 1);
+        d.due("26: by this hour alone", x.shut(5) & set(0), 0);
+        Due.text(x, 0, "1");
+        d.due("25: a hundred hours are not enough", x.soonest(0, 30), Due.NONE);
         x.clock(9999);
         Due.text(x, 0, "3*(h>9999)");
         d.due("25: HOUR beyond 9999", x.soonest(0, 35), 2);
