@@ -345,11 +345,7 @@ public final class DownByTheHour {
             return error(BEYOND);
         }
         int answer = voices.speak(house.things.kind[thing], thing, house.things.m[thing], voice, x);
-        if (voices.parted) {
-            return error(PARTED);
-        }
-        voices.keepTrace();
-        return answer;
+        return voices.parted ? error(PARTED) : answer;
     }
 
     public int body(int i) {
@@ -1262,35 +1258,27 @@ public final class DownByTheHour {
         boolean parted = false;
         int traced = 0;
         private final int[] trace = new int[MOST_TRACED];
-        private final int[] begun = new int[MOST_TRACED];
-        private int begins = 0;
         private int kind = 0;
         private int number = 0;
         private int m = 0;
 
-        /** What a VOICE answers, unless it parted; THE TRACE is kept by keepTrace alone. */
+        /** What a VOICE answers, unless it parted; THE TRACE is its own in any case. */
         int speak(int ofKind, int ofNumber, int ofM, int voice, int x) {
             kind = ofKind;
             number = ofNumber;
             m = ofM;
             parted = false;
-            begins = 0;
+            traced = 0;
             return sound(kind, voice, x, 0);
         }
 
-        void keepTrace() {
-            traced = begins;
-            for (int i = 0; i < MOST_TRACED; i++) {
-                trace[i] = begun[i];
-            }
-        }
-
         int bodyInTrace(int i) {
-            return i >= 0 && i < MOST_TRACED ? trace[i] : 0;
+            return i >= 0 && i < traced && i < MOST_TRACED ? trace[i] : 0;
         }
 
+        /** Behind what parted no BODY begins any more, as PARTED is all that is answered. */
         private int sound(int from, int voice, int x, int depth) {
-            if (depth > DEEPEST) {
+            if (parted || depth > DEEPEST) {
                 return 0;
             }
             int at = from;
@@ -1307,9 +1295,9 @@ public final class DownByTheHour {
         }
 
         private void begin(int body) {
-            if (begins < MOST_TRACED) {
-                begun[begins] = body;
-                begins++;
+            if (traced < MOST_TRACED) {
+                trace[traced] = body;
+                traced++;
             }
         }
 

@@ -836,20 +836,22 @@ final class Model {
         }
     }
 
+    private int traced() {
+        return Math.min(30, trace.size());
+    }
+
     private long rest(String name, long[] a) {
         switch (name) {
             case "voice": {
                 Thing thing = the(a[0]);
                 within(a[1], 0, 3);
-                List<Integer> begun = new ArrayList<>();
+                trace = new ArrayList<>();
                 int x = (int) a[2];
-                int v = a[1] == 0 ? thing.creaks(x, begun) : a[1] == 1 ? thing.rattles(x, begun)
-                    : a[1] == 2 ? thing.groans(x, begun) : thing.parts(x, begun);
-                trace = begun.subList(0, Math.min(30, begun.size()));
-                return v;
+                return a[1] == 0 ? thing.creaks(x, trace) : a[1] == 1 ? thing.rattles(x, trace)
+                    : a[1] == 2 ? thing.groans(x, trace) : thing.parts(x, trace);
             }
             case "body":
-                ask(NONE, a[0] >= 0 && a[0] < trace.size());
+                ask(NONE, a[0] >= 0 && a[0] < traced());
                 return trace.get((int) a[0]);
             case "image":
                 kept = world.copy();
@@ -867,7 +869,7 @@ final class Model {
             case "count":
                 within(a[0], 0, 8);
                 return new int[] {world.things.size(), world.hour, world.broken(), world.walls.size(),
-                    world.pull(world.hour), world.tape.length(), world.waiting.size(), trace.size(),
+                    world.pull(world.hour), world.tape.length(), world.waiting.size(), traced(),
                     world.z}[(int) a[0]];
             default:
                 within(a[0], 1, 6);

@@ -9,6 +9,7 @@ public final class VoicesTest {
         kinds();
         wrap();
         parted();
+        wholeBehindParted();
         wrong();
         d.end();
     }
@@ -94,13 +95,48 @@ public final class VoicesTest {
             d.due("28: told", x.told(6), 1);
             d.due("28: not so of another", x.voice(3, 0, 10) == Due.PARTED ? 1 : 0, 0);
         }
-        DownByTheHour x = six(3);
+        partedTrace(0, 13);
+        partedTrace(1, 21, 13);
+        partedTrace(2, 13);
+        partedTrace(3, 13);
+        partedTrace(4, 21, 13);
+        partedTrace(5, 13);
+        partedTrace(6, 13);
+    }
+
+    /** THE TRACE of a voice() that answers PARTED, behind a longer one, and behind ones that answer BEYOND. */
+    private static void partedTrace(int kind, int... bodies) {
+        DownByTheHour x = six(10 * kind + 3);
+        String what = "29: PARTED of kind " + kind;
         x.voice(1, 2, 5);
         x.voice(3, 3, 5);
-        d.due("29: an ERROR changes nothing", x.count(7), 3);
-        d.due("29: an ERROR changes nothing", x.body(0), 12);
+        isTrace(what, x, bodies);
         x.voice(6, 0, 5);
-        d.due("29: nor BEYOND", x.body(2), 10);
+        x.voice(3, 4, 5);
+        isTrace(what + ", BEYOND changes nothing", x, bodies);
+        x.image();
+        x.voice(1, 0, 5);
+        x.voice(3, 3, 6);
+        x.restore();
+        isTrace(what + ", no IMAGE has it", x, bodies);
+        d.due("28: told, " + what, x.told(6), 2);
+    }
+
+    /** What parted once is nothing to the next voice(). */
+    private static void wholeBehindParted() {
+        DownByTheHour x = six(13);
+        x.voice(3, 3, 5);
+        d.due("28: 4 by 2, and rattles(1)", x.voice(1, 3, 4), 2 + -4);
+        isTrace("29: of the voice behind PARTED", x, 21, 13, 11, 20, 10);
+        d.due("28: told but once", x.told(6), 1);
+    }
+
+    private static void isTrace(String what, DownByTheHour x, int... bodies) {
+        d.due(what + ", how many", x.count(7), bodies.length);
+        for (int i = 0; i < bodies.length; i++) {
+            d.due(what + ", body " + i, x.body(i), bodies[i]);
+        }
+        d.due(what + ", no more", x.body(bodies.length), Due.NONE);
     }
 
     private static void wrong() {
