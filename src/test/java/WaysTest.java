@@ -144,9 +144,9 @@ public final class WaysTest {
 
     /** SHUT and ROOMS tell the same as SOONEST and LANDS, from each CELL to each. */
     private static void together() {
-        DownByTheHour x = walled(3, 9, 13, 20, 28, 34, 18);
-        Due.text(x, 0, "h*h+h/5+d");
         for (int to = 0; to < 36; to++) {
+            DownByTheHour x = walled(3, 9, 13, 20, 28, 34, 18);
+            Due.text(x, 0, "h*h+h/5+d");
             long shut = x.shut(to);
             for (int from = 0; from < 36; from++) {
                 int soonest = x.soonest(from, to);
