@@ -953,7 +953,7 @@ public final class DownByTheHour {
                 at++;
             } else if (sign == '!' && open < MOST_OPEN) {
                 at++;
-                readFactor(open + 1);
+                readPart(LAST_RANK, open + 1);
                 emit(Law.SIGN + '!');
             } else if (sign == '(' && open < MOST_OPEN) {
                 at++;

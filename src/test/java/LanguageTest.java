@@ -14,7 +14,7 @@ import java.util.TreeSet;
 import java.util.regex.Matcher;
 import java.util.regex.Pattern;
 
-/** The face, and the rules of LANGUAGE.md that a look at the class and its source can tell. */
+/** The face, as DOC.md writes it, and the rules of LANGUAGE.md that a look at the class and its source can tell. */
 public final class LanguageTest {
     private static final Due d = new Due("LanguageTest");
     private static final String FACE = "int wall(int,int); int cellIs(int,int); int thing(int,int); "
@@ -32,11 +32,48 @@ public final class LanguageTest {
         "Random", "while", "instanceof", "enum", "record", "interface", "extends", "implements", "String",
     };
 
+    private static final Pattern METHOD = Pattern.compile(
+        "^( {4}| {8})((?:(?:public|private|static|final) )*)[\\w\\[\\]]+ (\\w+)\\([^)]*\\) \\{");
+
     public static void main(String[] args) throws IOException {
         face();
         inside();
-        source(Files.readString(Path.of("src/main/java/DownByTheHour.java"), StandardCharsets.UTF_8));
+        String source = read("src/main/java/DownByTheHour.java");
+        source(source);
+        faceOfDocument(source, read("../shared/DOC.md"));
         d.end();
+    }
+
+    private static String read(String path) throws IOException {
+        return Files.readString(Path.of(path), StandardCharsets.UTF_8);
+    }
+
+    /** The lines of the document's face stand in the source, in its order, each heading ahead of its calls. */
+    private static void faceOfDocument(String source, String document) {
+        List<String> want = new ArrayList<>();
+        Matcher heading = Pattern.compile("Ahead of the calls (.*?) the interface says: (---- .*)\\.")
+            .matcher(document);
+        List<String> headings = new ArrayList<>();
+        List<String> firstCalls = new ArrayList<>();
+        while (heading.find()) {
+            firstCalls.add(heading.group(1).replaceAll("^`(\\w+)`.*", "$1"));
+            headings.add("// " + heading.group(2));
+        }
+        isSo("the document has six headings", headings.size() == 6);
+        Matcher line = Pattern.compile("(?m)^    (public (?:int |long )?(\\w+)\\(.*\\));$").matcher(document);
+        while (line.find()) {
+            int first = firstCalls.indexOf(line.group(2));
+            if (first >= 0) {
+                want.add(headings.get(first));
+            }
+            want.add(line.group(1));
+        }
+        List<String> got = new ArrayList<>();
+        Matcher mine = Pattern.compile("(?m)^    (// ---- .*|public .*\\)) ?\\{?$").matcher(source);
+        while (mine.find()) {
+            got.add(mine.group(1));
+        }
+        isSo("1: the face line by line, " + got + ", the document's " + want, got.equals(want));
     }
 
     private static String told(Method method) {
@@ -124,6 +161,23 @@ public final class LanguageTest {
         isSo("4: of the library no " + used, used.isEmpty());
         made(bare);
         lengths(text);
+        recursion(bare);
+    }
+
+    /** Who calls itself is private and static; else methods call one another. */
+    private static void recursion(String bare) {
+        Matcher method = null;
+        for (String line : bare.split("\n")) {
+            Matcher begins = METHOD.matcher(line);
+            if (begins.find()) {
+                method = begins;
+            } else if (method != null && line.equals(method.group(1) + "}")) {
+                method = null;
+            } else if (method != null && !method.group(2).equals("private static ")) {
+                boolean callsItself = Pattern.compile("(?<![.\\w])" + method.group(3) + "\\(").matcher(line).find();
+                isSo("8: calls itself, and isn't private and static: " + method.group(3), !callsItself);
+            }
+        }
     }
 
     /** What is made is made as an object's fields, once. */
